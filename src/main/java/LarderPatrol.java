@@ -1164,16 +1164,13 @@ public final class LarderPatrol {
         }
 
         private int mostDigits(char sign) {
-            switch (sign) {
-                case 'D':
-                    return 1;
-                case 'N':
-                    return 2;
-                case 'L':
-                    return 4;
-                default:
-                    return 0;
+            if (sign == 'D') {
+                return 1;
             }
+            if (sign == 'N') {
+                return 2;
+            }
+            return sign == 'L' ? 4 : 0;
         }
 
         private boolean readSign(char sign) {
