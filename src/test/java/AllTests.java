@@ -1,4 +1,4 @@
-/** Runs every test of the project; its one argument is the path of LarderPatrol.java. */
+/** Runs every test of the project; its two arguments are the paths of LarderPatrol.java and of the document. */
 public final class AllTests {
     private AllTests() {
     }
@@ -11,12 +11,26 @@ public final class AllTests {
         TextPromises.run();
         DenialPromises.run();
         UndoPromises.run();
+        runBoundaries();
+        DocumentCheck.run(args.length > 1 ? args[1] : "../shared/DOC.md");
         FaceCheck.run();
-        SourceCheck.run(args.length == 1 ? args[0] : "src/main/java/LarderPatrol.java");
+        SourceCheck.run(args.length > 0 ? args[0] : "src/main/java/LarderPatrol.java");
         ModelRuns.run();
         System.out.println(Checks.passed() + " passed, " + Checks.failed() + " failed");
         if (Checks.failed() != 0) {
             System.exit(1);
         }
+    }
+
+    private static void runBoundaries() {
+        TermBoundaries.run();
+        StepBoundaries.run();
+        ShelfBoundaries.run();
+        PatrolBoundaries.run();
+        MinuteBoundaries.run();
+        AccountBoundaries.run();
+        TextBoundaries.run();
+        DenialBoundaries.run();
+        UndoBoundaries.run();
     }
 }

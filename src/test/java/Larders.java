@@ -3,31 +3,51 @@ final class Larders {
     private Larders() {
     }
 
-    static LarderPatrol withCheese(int... grams) {
-        LarderPatrol x = new LarderPatrol();
+    static void addShelves(LarderPatrol x, int... grams) {
         for (int cheese : grams) {
             x.addShelf(cheese);
         }
+    }
+
+    static void linkInARow(LarderPatrol x) {
+        for (int shelf = 1; shelf < x.shelfCount(); shelf++) {
+            x.link(shelf - 1, shelf);
+        }
+    }
+
+    /** Makes twelve empty shelves with the first `passages` passages in the order 0-1, 0-2, .. 1-2, .. */
+    static void addPassages(LarderPatrol x, int passages) {
+        addShelves(x, new int[12]);
+        for (int first = 0; first < 12; first++) {
+            for (int second = first + 1; second < 12 && x.passageCount() < passages; second++) {
+                x.link(first, second);
+            }
+        }
+    }
+
+    static void addStops(LarderPatrol x, int... shelves) {
+        for (int shelf : shelves) {
+            x.addStop(shelf);
+        }
+    }
+
+    static LarderPatrol withCheese(int... grams) {
+        LarderPatrol x = new LarderPatrol();
+        addShelves(x, grams);
         return x;
     }
 
     /** Shelves 0 - 1 - 2 - .. in a row, each with its cheese. */
     static LarderPatrol inARow(int... grams) {
         LarderPatrol x = withCheese(grams);
-        for (int shelf = 1; shelf < grams.length; shelf++) {
-            x.link(shelf - 1, shelf);
-        }
+        linkInARow(x);
         return x;
     }
 
-    /** Twelve empty shelves with the first `passages` passages in the order 0-1, 0-2, .. 1-2, .. */
+    /** As addPassages makes them. */
     static LarderPatrol withPassages(int passages) {
-        LarderPatrol x = withCheese(0, 0, 0, 0, 0, 0, 0, 0, 0, 0, 0, 0);
-        for (int first = 0; first < 12; first++) {
-            for (int second = first + 1; second < 12 && x.passageCount() < passages; second++) {
-                x.link(first, second);
-            }
-        }
+        LarderPatrol x = new LarderPatrol();
+        addPassages(x, passages);
         return x;
     }
 
