@@ -1,4 +1,4 @@
-/** Runs every test of the project; its two arguments are the paths of LarderPatrol.java and of the document. */
+/** Runs every test of the project; its arguments are the paths of LarderPatrol.java, of the document and of the README. */
 public final class AllTests {
     private AllTests() {
     }
@@ -12,9 +12,11 @@ public final class AllTests {
         DenialPromises.run();
         UndoPromises.run();
         runBoundaries();
-        DocumentCheck.run(args.length > 1 ? args[1] : "../shared/DOC.md");
+        String source = args.length > 0 ? args[0] : "src/main/java/LarderPatrol.java";
+        DocumentCheck.run(args.length > 1 ? args[1] : "../shared/DOC.md", source);
         FaceCheck.run();
-        SourceCheck.run(args.length > 0 ? args[0] : "src/main/java/LarderPatrol.java");
+        SourceCheck.run(source);
+        ReadmeCheck.run(args.length > 2 ? args[2] : "README.md");
         ModelRuns.run();
         System.out.println(Checks.passed() + " passed, " + Checks.failed() + " failed");
         if (Checks.failed() != 0) {

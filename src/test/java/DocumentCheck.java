@@ -5,16 +5,28 @@ import java.util.ArrayList;
 import java.util.LinkedHashMap;
 import java.util.List;
 import java.util.Map;
+import java.util.regex.Matcher;
+import java.util.regex.Pattern;
 
-/** Holds the boundary tests against the document: each quotes what stands there, and no boundary is without a test. */
+/**
+ * Holds the boundary tests against the document: each quotes what stands there, and no boundary is without a test.
+ * Holds the source against the document's face too, parameter by parameter and group by group.
+ */
 final class DocumentCheck {
     private static final int PROMISES = 55;
+    private static final String HEADING = "    // ---- ";
+    private static final Pattern CALL = Pattern.compile("`(\\w+)`");
+    private static final Pattern METHOD = Pattern.compile("^    public \\w+ (\\w+)\\(");
 
     private DocumentCheck() {
     }
 
-    static void run(String path) {
+    static void run(String path, String sourcePath) {
         Map<String, List<String>> places = read(path);
+        List<String> source = readLines(sourcePath);
+        faceStandsInSource(places.getOrDefault("The public face", List.of()), source);
+        Checks.dueText("the groups of the interface",
+            groupsOfDocument(places.getOrDefault(Boundaries.TERMS, List.of())), groupsOfSource(source));
         quotesStandThere(places);
         termsAreQuoted(places.getOrDefault(Boundaries.TERMS, List.of()));
         for (int number = 1; number <= PROMISES; number++) {
@@ -27,19 +39,68 @@ final class DocumentCheck {
     private static Map<String, List<String>> read(String path) {
         Map<String, List<String>> places = new LinkedHashMap<>();
         List<String> lines = new ArrayList<>();
-        try {
-            for (String line : Files.readAllLines(Path.of(path))) {
-                if (line.startsWith("## ")) {
-                    lines = new ArrayList<>();
-                    places.put(line.substring(3).split(":")[0], lines);
-                } else {
-                    lines.add(line.strip());
-                }
+        for (String line : readLines(path)) {
+            if (line.startsWith("## ")) {
+                lines = new ArrayList<>();
+                places.put(line.substring(3).split(":")[0], lines);
+            } else {
+                lines.add(line.strip());
             }
-        } catch (IOException unreadable) {
-            Checks.dueText("the document", "readable", unreadable.toString());
         }
         return places;
+    }
+
+    private static List<String> readLines(String path) {
+        try {
+            return Files.readAllLines(Path.of(path));
+        } catch (IOException unreadable) {
+            Checks.dueText(path, "readable", unreadable.toString());
+            return List.of();
+        }
+    }
+
+    private static void faceStandsInSource(List<String> face, List<String> source) {
+        String words = String.join(" ", source).replaceAll("\\s+", " ");
+        int declared = 0;
+        for (String line : face) {
+            if (line.startsWith("public ")) {
+                String due = line.replaceAll(";$", " {");
+                Checks.dueTrue("the source says " + due, words.contains(due));
+                declared++;
+            }
+        }
+        int lines = declared;
+        Checks.due("the class, its constructor and its methods", PROMISES + 1, () -> lines);
+    }
+
+    private static String groupsOfDocument(List<String> terms) {
+        StringBuilder groups = new StringBuilder();
+        for (String line : terms) {
+            if (line.startsWith("Ahead of the calls ")) {
+                groups.append('\n').append(line.replaceAll(".* says: (.*)\\.$", "$1"));
+                Matcher call = CALL.matcher(line);
+                while (call.find()) {
+                    groups.append(' ').append(call.group(1));
+                }
+            }
+        }
+        return groups.toString();
+    }
+
+    /** The public methods behind each of the source's headings, in their order; a heading without any is left out. */
+    private static String groupsOfSource(List<String> source) {
+        StringBuilder groups = new StringBuilder();
+        String heading = "";
+        for (String line : source) {
+            Matcher method = METHOD.matcher(line);
+            if (line.startsWith(HEADING)) {
+                heading = "\n" + line.strip().substring("// ".length());
+            } else if (method.find()) {
+                groups.append(heading).append(' ').append(method.group(1));
+                heading = "";
+            }
+        }
+        return groups.toString();
     }
 
     private static void quotesStandThere(Map<String, List<String>> places) {
