@@ -74,9 +74,10 @@ final class AccountPromises {
         LarderPatrol x = afterTwoMice();
         x.setRate(16);
         x.pass(1);
-        while (x.caught() < 2) {
+        for (int minute = 0; minute < 100 && x.caught() < 2; minute++) {
             x.pass(1);
         }
+        Checks.dueTrue("42 the cat has caught another one", x.caught() >= 2);
         int caught = x.caught();
         int gone = x.gone();
         Checks.dueDouble("42 share in float", (float) caught / (float) (caught + gone), x.caughtShare());
